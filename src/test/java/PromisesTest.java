@@ -656,8 +656,16 @@ public final class PromisesTest {
         hat = Checks.company("p0,k0");
         due("21: stuck", hat.drawn(9, 5, 0), 0);
         due("21: stuck behind one name each", hat.drawn(9, 5, 1), 9);
-        hat = Checks.company(MIXED);
-        due("21: mixed, before", hat.drawn(3, 0, 1) > 0 ? 1 : 0, 1);
+        // From seed 1 the draws are 16838, 5758, 10113, 17515, 31051 (each by how many may be drawn):
+        // 0 draws 1 and 1 draws 0, so that 2 is stuck; then 0 draws 2, 1 draws 0, 2 draws 1.
+        hat = Checks.company("p0,p0,p0");
+        due("21: the first time stuck", hat.drawn(1, 1, 0), 0);
+        due("21: behind two names", hat.drawn(1, 1, 1), 2);
+        due("21: the second time not", hat.drawn(2, 1, 0), 1);
+        due("21: three names more", hat.drawn(2, 1, 1), 5);
+        hat.take(0, 2);
+        due("21: what is drawn is not in the hat", hat.drawn(1, 1, 0), 1);
+        due("21: two who have not drawn", hat.drawn(1, 1, 1), 2);
         for (int times : new int[] {LOW, -1, 0, 61, HIGH}) {
             due("21: outside times", hat.drawn(times, 0, 0), OUTSIDE);
         }
