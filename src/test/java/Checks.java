@@ -1,13 +1,23 @@
 /** What the project's tests share: answers held against what is due, and companies typed in. */
 final class Checks {
+    private String heading = "";
     private int done;
     private int wrong;
+
+    /** What the answers that follow are told under. */
+    void head(String text) {
+        heading = text;
+    }
+
+    int done() {
+        return done;
+    }
 
     void due(String call, long got, long want) {
         done++;
         if (got != want) {
             wrong++;
-            System.out.println(call + " answered " + got + ", due is " + want);
+            System.out.println(heading + call + " answered " + got + ", due is " + want);
         }
     }
 
@@ -27,9 +37,14 @@ final class Checks {
         }
     }
 
-    static HatNames company(String text) {
+    static HatNames typed(String text) {
         HatNames hat = new HatNames();
         type(hat, text);
+        return hat;
+    }
+
+    static HatNames company(String text) {
+        HatNames hat = typed(text);
         hat.company();
         return hat;
     }
