@@ -7,6 +7,15 @@ public final class CompanySentencesTest extends Sentences {
         run(CompanySentencesTest.class, 1, 7);
     }
 
+    @Says(at = "the public face", words = "NONE = -1, UNKNOWN = -101, OUTSIDE = -102, STATE = -103, FULL = -104")
+    static void constants() {
+        due("NONE", HatNames.NONE, -1);
+        due("UNKNOWN", HatNames.UNKNOWN, -101);
+        due("OUTSIDE", HatNames.OUTSIDE, -102);
+        due("STATE", HatNames.STATE, -103);
+        due("FULL", HatNames.FULL, -104);
+    }
+
     private static void read(String text, int company, int fault) {
         HatNames hat = Checks.typed(text);
         due("fault() of " + text, hat.fault(), fault);
@@ -328,7 +337,7 @@ public final class CompanySentencesTest extends Sentences {
         }
     }
 
-    @Says(at = "promise 5", words = "THE PAGE is read as THE COMPANY: how many PERSONS")
+    @Says(at = "promise 5", words = "THE PAGE is read as THE COMPANY")
     static void companyRead() {
         HatNames hat = Checks.typed("r9,e0");
         due("company(), two", hat.company(), 2);
@@ -430,6 +439,13 @@ public final class CompanySentencesTest extends Sentences {
         due("its image stays", hat.restore(), 2);
         Checks.type(hat, "p3");
         due("company() of the page that stayed", hat.company(), 3);
+    }
+
+    @Says(at = "promise 6", words = "what = 0 KIND, 1 HOUSE")
+    static void personKindAndHouse() {
+        HatNames hat = Checks.company(MIXED);
+        each(hat, 0, 0, 2, 3, 1, 4, 0);
+        each(hat, 1, 1, 1, 4, 2, 3, 2);
     }
 
     @Says(at = "promise 6", words = "2 the NAME he has drawn (NONE)")

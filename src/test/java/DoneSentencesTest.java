@@ -265,7 +265,7 @@ public final class DoneSentencesTest extends Sentences {
         each(hat, 3, 7, 7, 7);
     }
 
-    @Says(at = "promise 13", words = "A PERSON is of another KIND and HOUSE: of which KIND he was.")
+    @Says(at = "promise 13", words = "of which KIND he was")
     static void change() {
         HatNames hat = Checks.company("r5,e5,p5");
         due("change(0, 0, 0)", hat.change(0, 0, 0), 4);

@@ -7,7 +7,7 @@ import java.lang.annotation.Target;
 @Retention(RetentionPolicy.RUNTIME)
 @Target(ElementType.METHOD)
 @interface Says {
-    /** A promise by its number, or "terms", "section 1" to "section 3", "what it is". */
+    /** A promise by its number, or "terms", "section 1" to "section 3", and the like. */
     String at();
 
     String words();
